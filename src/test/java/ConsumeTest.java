@@ -95,6 +95,7 @@ public final class ConsumeTest {
         Due.is("resp", consumeAltered("resp", "rest"), -4);
         Due.is("no id", consumeAltered(" id=\"r0\"", ""), -4);
         Due.is("empty id", consumeAltered("id=\"r0\"", "id=\"\""), -4);
+        Due.is("id of 1", consumeAltered("id=\"r0\"", "id=\"r\""), 0);
         Due.is("id of 8", consumeAltered("id=\"r0\"", "id=\"12345678\""), 0);
         Due.is("id of 9", consumeAltered("id=\"r0\"", "id=\"123456789\""), -4);
         Due.is("no to", consumeAltered(" to=\"acs\"", ""), -4);
@@ -135,6 +136,8 @@ public final class ConsumeTest {
         Due.is("no nb", consumeAltered(" nb=\"0\"", ""), -4);
         Due.is("no noa in cond", consumeAltered("nb=\"0\" noa=\"10\"", "nb=\"0\""), -4);
         Due.is("nb is no number", consumeDraft(d -> d.nb = "x"), -4);
+        Due.is("nb with what follows 9", consumeDraft(d -> d.nb = "0:"), -4);
+        Due.is("nb with what precedes 0", consumeDraft(d -> d.nb = "0/"), -4);
         Due.is("nb is empty", consumeDraft(d -> d.nb = ""), -4);
         Due.is("nb of ten digits", consumeDraft(d -> d.nb = "0000000000"), -4);
         Due.is("nb of nine digits", consumeDraft(d -> d.nb = "000000000"), 0);
@@ -205,6 +208,34 @@ public final class ConsumeTest {
         Draft draft = new Draft();
         draft.offBy = Desk.MODULUS;
         Due.is("v + n", consumeText(draft.text()), -6);
+        Draft zero = draftOfDigestZero();
+        Due.yes("the digest is 0", zero.text().contains(" v=\"0\""));
+        Due.is("v is 0", consumeText(zero.text()), 0);
+        zero.offBy = Desk.MODULUS;
+        Due.is("v is n", consumeText(zero.text()), -6);
+    }
+
+    private static Draft draftOfDigestZero() {
+        Draft draft = new Draft();
+        for (int i = 0; i < 10000000 && !draft.text().contains(" v=\"0\""); i++) {
+            draft.user = Integer.toString(i, 36);
+        }
+        return draft;
+    }
+
+    /** A word is the one that is due only if each of its characters is. */
+    private static void wholeWords() {
+        String[][] changes = {{"resp", "xesp"}, {"<stat>ok</stat>", "<xtat>ok</xtat>"}, {"cond", "xond"}, {"conf", "conx"},
+            {" id=\"r0\"", " xd=\"r0\""}, {" id=\"r0\"", " ix=\"r0\""}, {"assn", "asxn"}};
+        for (String[] change : changes) {
+            Due.is(change[1], consumeAltered(change[0], change[1]), -4);
+        }
+        Due.is("to", consumeDraft(d -> d.to = "xcs"), -8);
+        Due.is("to", consumeDraft(d -> d.to = "acx"), -8);
+        Due.is("stat", consumeDraft(d -> d.stat = "xk"), -9);
+        Due.is("stat", consumeDraft(d -> d.stat = "ox"), -9);
+        Due.is("aud", consumeDraft(d -> d.aud = "xp"), -11);
+        Due.is("rcp", consumeDraft(d -> d.rcp = "axs"), -13);
     }
 
     private static void terms() {
@@ -366,6 +397,7 @@ public final class ConsumeTest {
         ids();
         signatures();
         vBelowModulus();
+        wholeWords();
         terms();
         wrapping();
         sessions();

@@ -86,6 +86,10 @@ public final class GrammarTest {
         counts("<a b=\"x/>", -2);
         counts("<a b=x/>", -2);
         counts("<a b='x'/>", -2);
+        counts("<a b=x\"/>", -2);
+        counts("<a b=x\"y\"/>", -2);
+        counts("<a b:\"x\"/>", -2);
+        counts("<a b\"x\"/>", -2);
         counts("<a b/>", -2);
         counts("<a b=/>", -2);
         counts("<a b =\"x\"/>", -2);
