@@ -1,5 +1,6 @@
-/** Promises 4, 5 and 21: pass, request, outstanding; and the bounds of SKEW and LIFE. */
+/** Promises 4, 5 and 21: pass, request, outstanding; and the bounds of LIFE. */
 public final class RequestTest {
+    /** "The clock goes on by n; false if n is not 0 .. 1000." */
     private static void passing() {
         Desk desk = Desk.ready(0, 100);
         for (int n : new int[] {-1, 1001, Integer.MIN_VALUE, Integer.MAX_VALUE}) {
@@ -14,6 +15,24 @@ public final class RequestTest {
         Due.yes("pass 1000", desk.gate().pass(1000));
     }
 
+    /** The clock, as an issuer writes it: what pass was told, and not what it refused. */
+    private static void clockGoesOn() {
+        int[][] passes = {{0, 1}, {1, 1}, {999, 1}, {1000, 1}, {-1, 0}, {1001, 0}, {2, 1}};
+        Desk desk = new Desk(0, 100).withIssuers();
+        int clock = 0;
+        for (int[] pass : passes) {
+            Due.is("pass " + pass[0], desk.gate().pass(pass[0]) ? 1 : 0, pass[1]);
+            clock += pass[0] * pass[1];
+            Due.yes("issue", desk.gate().issue(0, 0, 0, 0, 0));
+            String want = "nb=\"" + clock + "\"";
+            int from = desk.gate().length() - (want + " noa=\"" + clock + "\"/></assn></resp>").length();
+            for (int i = 0; i < want.length(); i++) {
+                Due.is("clock " + clock + " at " + i, desk.gate().at(from + i), want.charAt(i));
+            }
+        }
+    }
+
+    /** "its number; -1 if k is not 0 .. 3 or 30 were made": also if they are not outstanding any more */
     private static void requests() {
         Desk desk = new Desk(0, 100);
         for (int k : new int[] {-1, 4, Integer.MIN_VALUE, Integer.MAX_VALUE}) {
@@ -30,6 +49,19 @@ public final class RequestTest {
         Due.is("30 were made", desk.gate().request(0), -1);
     }
 
+    /** Refused requests take no number; answered ones and those that have run out keep theirs. */
+    private static void numbersOfRequests() {
+        Desk desk = Desk.ready(0, 10);
+        Due.is("accepted", desk.takeIssued(0, 0, 1, 1), 0);
+        Due.is("refused", desk.gate().request(4), -1);
+        Due.is("behind an answered one", desk.gate().request(3), 1);
+        desk.gate().pass(10);
+        Due.is("none is outstanding", desk.gate().outstanding(), 0);
+        Due.is("behind one that has run out", desk.gate().request(0), 2);
+        Due.is("one is outstanding", desk.gate().outstanding(), 1);
+    }
+
+    /** "LIFE is the constructor's, if that is 1 .. 1000, else 100" */
     private static void livesFor(int given, int want) {
         Desk desk = new Desk(0, given);
         Due.yes("pass", desk.gate().pass(7));
@@ -48,34 +80,7 @@ public final class RequestTest {
         }
     }
 
-    private static int consumeAt(int skew, String nb, String noa, String confNoa) {
-        Draft draft = new Draft();
-        draft.nb = nb;
-        draft.noa = noa;
-        draft.confNoa = confNoa;
-        Desk desk = Desk.ready(skew, 1000).fill(draft.text());
-        Due.yes("pass", desk.gate().pass(500));
-        return desk.gate().consume();
-    }
-
-    private static void skewsTo(int given, int want) {
-        String late = "" + (500 + want);
-        String early = "" + (501 - want);
-        Due.is("nb at its latest, skew " + given, consumeAt(given, late, "900", "900"), 0);
-        Due.is("nb too late, skew " + given, consumeAt(given, "" + (501 + want), "900", "900"), -12);
-        Due.is("noa at its earliest, skew " + given, consumeAt(given, "0", early, "900"), 0);
-        Due.is("noa too early, skew " + given, consumeAt(given, "0", "" + (500 - want), "900"), -12);
-        Due.is("noa of conf at its earliest, skew " + given, consumeAt(given, "0", "900", early), 0);
-        Due.is("noa of conf too early, skew " + given, consumeAt(given, "0", "900", "" + (500 - want)), -13);
-    }
-
-    private static void skews() {
-        int[][] skews = {{0, 0}, {1, 1}, {100, 100}, {101, 0}, {-1, 0}, {Integer.MAX_VALUE, 0}, {Integer.MIN_VALUE, 0}};
-        for (int[] skew : skews) {
-            skewsTo(skew[0], skew[1]);
-        }
-    }
-
+    /** "It is OUTSTANDING from its making on until a response to it is accepted" */
     private static void answeredRequests() {
         Desk desk = Desk.ready(0, 100);
         Due.is("request", desk.gate().request(1), 1);
@@ -96,9 +101,10 @@ public final class RequestTest {
 
     public static void main(String[] args) {
         passing();
+        clockGoesOn();
         requests();
+        numbersOfRequests();
         lives();
-        skews();
         answeredRequests();
         Due.end();
     }

@@ -14,7 +14,7 @@ final class Desk {
         gate = new AssertionGate(skew, life);
     }
 
-    /** A desk at which issuers 0 and 1 are trusted and have private keys, with requests 0 to issuer 0. */
+    /** A desk at which issuers 0 and 1 are trusted and have private keys, with request 0 to issuer 0. */
     static Desk ready(int skew, int life) {
         Desk desk = new Desk(skew, life);
         for (int k = 0; k < 2; k++) {
@@ -23,6 +23,15 @@ final class Desk {
         }
         desk.gate().request(0);
         return desk;
+    }
+
+    /** All four issuers are trusted and have private keys. */
+    Desk withIssuers() {
+        for (int k = 0; k < 4; k++) {
+            gate().trust(k, MODULUS, OPEN_EXPONENT);
+            gate().key(k, MODULUS, PRIVATE_EXPONENT);
+        }
+        return this;
     }
 
     AssertionGate gate() {

@@ -63,13 +63,16 @@ final class Oracle {
         }
 
         int digest() {
-            BigInteger digest = BigInteger.ZERO;
-            for (char c : canonical(false).toCharArray()) {
-                digest = digest.multiply(BigInteger.valueOf(257)).add(BigInteger.valueOf(c))
-                    .mod(BigInteger.valueOf(65521));
-            }
-            return digest.intValue();
+            return digestOf(canonical(false));
         }
+    }
+
+    static int digestOf(String canonical) {
+        long digest = 0;
+        for (int i = 0; i < canonical.length(); i++) {
+            digest = (digest * 257 + canonical.charAt(i)) % 65521;
+        }
+        return (int) digest;
     }
 
     /** Reads a text into its elements in the order in which they begin. */
