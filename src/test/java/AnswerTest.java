@@ -247,10 +247,10 @@ public final class AnswerTest {
                 int earliest = Math.max(0, clock - skew + 1);
                 Due.is("noa " + earliest + when, consumeAt(skew, clock, d -> d.noa = digits(earliest)), 0);
                 Due.is("noa of conf " + earliest + when, consumeAt(skew, clock, d -> d.confNoa = digits(earliest)), 0);
-                if (clock >= skew) {
-                    int over = clock - skew;
-                    Due.is("noa " + over + when, consumeAt(skew, clock, d -> d.noa = digits(over)), -12);
-                    Due.is("noa of conf " + over + when, consumeAt(skew, clock, d -> d.confNoa = digits(over)), -13);
+                for (int over = clock - skew; over >= 0; over -= 1 + over / 2) {
+                    String noa = digits(over);
+                    Due.is("noa " + over + when, consumeAt(skew, clock, d -> d.noa = noa), -12);
+                    Due.is("noa of conf " + over + when, consumeAt(skew, clock, d -> d.confNoa = noa), -13);
                 }
             }
         }
@@ -378,6 +378,10 @@ public final class AnswerTest {
         other.gate().leave(0, 1);
         Due.is("a logout with 40 keys", other.gate().consume(), -15);
         Due.is("the session stays", other.gate().session(0), 1);
+        String longest = Take.logoutText(d -> d.id = "12345678");
+        Desk last = withKeys(39).fill(longest);
+        Due.is("the 40th key is the longest", last.gate().consume(), 100);
+        Due.is("it is seen", last.gate().consume(), -14);
         for (int x = 0; x < 40; x += 13) {
             Desk desk = withKeys(40);
             String id = "o" + x;

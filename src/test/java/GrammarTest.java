@@ -50,6 +50,7 @@ public final class GrammarTest {
     /** "A text that is not banned is a MESSAGE if it is, from its first to its last character, one element" */
     private static void oneElement() {
         inside(1, "<a/>", "<a></a>");
+        outside("xa/>", " a/>", ">a></a>", "aa/>", "\"a/>", "/a></a>");
         outside("", " ", "a", "<", ">", " <a/>", "x<a/>", "<a/> ", "<a/>x", "<a></a>x", "<a></a> ", "<a/><b/>",
             "<a></a><b></b>", "<!-- x --><a/>", "<a/><!-- x -->", "<!---->", "<a><!-- --></a><!-- -->", "</a>",
             "<a></a></a>");
@@ -99,12 +100,14 @@ public final class GrammarTest {
         outside("<a></b>", "<a></aa>", "<aa></a>", "<ab></aa>", "<ab></bb>", "<a></>", "<a></ >", "<a></ a>",
             "<a>< /a>", "<a></a/>", "<a></a x>", "<a></a b=\"\">", "<a b=\"\"></a b=\"\">", "<a><b></a></b>",
             "<a><b></a>", "<a></b></a>", "<a></a<!-- -->>");
+        outside("<a></a.", "<a></a/", "<a></a =", "<a></a<", "<a></a?", "<a><b></b.</a>", "<a><b></b </a>");
     }
 
     /** "<  NAME  attributes  /> , or  <  NAME  attributes  >" */
     private static void startTags() {
         inside(1, "<a/>", "<a />", "<a></a>", "<a ></a>", "<a   ></a>", "<a" + " ".repeat(396) + "/>");
         outside("<a/ >", "<a / >", "<a//>", "<a/></a>", "<a<b/>", "<a!>", "<a/b>", "<a.>");
+        outside("<a.</a>", "<a/</a>", "<a =</a>", "<a b</a>", "<a b=\"\".</a>", "<a <</a>", "<a?</a>", "<a b=\"\"/</a>", "<a/.");
         inside(1, "<a>></a>", "<a>/></a>");
     }
 
@@ -150,6 +153,7 @@ public final class GrammarTest {
             "<a b=\"" + "x".repeat(391) + "\"/>");
         outside("<a b=\"<\"/>", "<a b=\"x<\"/>", "<a b=\"<c/>\"/>", "<a b=\"\"\"/>", "<a b=\"x\"y\"/>",
             "<a b=\"<!-- -->\"/>");
+        outside("<a b=\"</>", "<a b=\"x</>", "<a b=\"<></a>", "<a b=\"x<></a>", "<a b=\"< c=\"\"/>");
     }
 
     /** "content: any number of characters other than <, elements, and comments." */
@@ -177,6 +181,17 @@ public final class GrammarTest {
         outside("<a><!--x---></a>", "<a><!-----></a>", "<a><!-- ---></a>", "<a><!------></a>", "<a><!--- ---></a>");
     }
 
+    /** A text that was no message leaves nothing behind for the next one, nor does one that was. */
+    private static void oneAfterAnother() {
+        String[] texts = {"<a>".repeat(6), nested(6), "<a>" + "<b/>".repeat(20), "<a>" + "<b/>".repeat(19) + "</a>",
+            "<a b=\"1\"", "<a b=\"1\" c=\"2\" d=\"3\" e=\"4\"/>", "&", "<a>".repeat(7), nested(6), "<a></b>", "<a b=\"2\"/>", ""};
+        int[] want = {-2, 6, -2, 20, -2, 1, -1, -2, 6, -2, 1, -2};
+        Desk desk = new Desk(0, 100);
+        for (int i = 0; i < texts.length; i++) {
+            Due.is("elements of " + texts[i], desk.fill(texts[i]).gate().elements(), want[i]);
+        }
+    }
+
     private static void changesNothing() {
         Desk desk = new Desk(0, 100).fill("<a><b/></a>");
         Due.is("elements", desk.gate().elements(), 2);
@@ -202,6 +217,7 @@ public final class GrammarTest {
         contents();
         comments();
         commentEnds();
+        oneAfterAnother();
         changesNothing();
         Due.end();
     }

@@ -92,6 +92,20 @@ public final class SessionTest {
         Due.is("name of 1", desk.nameOf(1), "u77");
     }
 
+    /** The last session may have the longest name. */
+    private static void lastName() {
+        Desk desk = Desk.ready(0, 100);
+        for (int s = 0; s < 19; s++) {
+            desk.gate().request(0);
+            Due.is("session", desk.takeIssued(0, s, s, 1), s);
+        }
+        String longest = Take.responseText(d -> d.asks("19").user = "12345678");
+        Due.is("session 19", desk.fill(longest).gate().consume(), 19);
+        Due.is("name of 19", desk.nameOf(19), "12345678");
+        Due.is("name of 18", desk.nameOf(18), "u18");
+        Due.is("name of 19 has none there", desk.gate().name(19, 8), -1);
+    }
+
     /** The name outlives the text that it came from. */
     private static void namesStay() {
         Desk desk = Desk.ready(0, 100);
@@ -173,6 +187,7 @@ public final class SessionTest {
         textStays();
         states();
         names();
+        lastName();
         namesStay();
         acceptedLogout();
         wholeNames();

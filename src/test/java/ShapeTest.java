@@ -254,6 +254,17 @@ public final class ShapeTest {
         Due.is("an empty out", Take.text("<out/>"), OTHER);
     }
 
+    /** An element without content has no word, whatever stood in that place of an earlier text. */
+    private static void wordsOfEarlierTexts() {
+        for (int more = 0; more < 8; more++) {
+            String filler = "y".repeat(more);
+            Desk desk = Desk.ready(0, 100);
+            Due.is("a logout", desk.fill(Take.logoutText(d -> d.user = "12345678")).gate().consume(), 100);
+            String wordless = Take.logoutText(d -> d.alter("<name>u7</name>", "<name/>" + filler));
+            Due.is("then " + wordless, desk.fill(wordless.replace("o1", "o2")).gate().consume(), OTHER);
+        }
+    }
+
     /** "(Other children and attributes may be there.)" */
     private static void others() {
         Due.is("children of the resp", Take.response(d -> d.respExtra = "<x to=\"a\">y</x><conf/> z <!-- w -->"), 0);
@@ -302,6 +313,7 @@ public final class ShapeTest {
         children();
         atMostOneSig();
         rootNames();
+        wordsOfEarlierTexts();
         others();
         ids();
         Due.end();
