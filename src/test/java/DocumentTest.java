@@ -218,6 +218,21 @@ public final class DocumentTest {
             new Step(0, "noa=\"1\"/>", "noa=\"01\"/>", 50347));
     }
 
+    /** "-3 two of its elements have an attribute id of the same value", "there is no < among them", KEY and NUMBER */
+    private static void shapes() {
+        eachTaken(RESP,
+            new Step(-3, "<stat>", "<x id=\"\"/><y id=\"\"/><stat>", RESP_V),
+            new Step(0, "<stat>", "<x id=\"\"/><y x=\"\"/><stat>", RESP_V),
+            new Step(-4, "ann", "a<!---->", 39609),
+            new Step(0, "ann", "a!-----a", 54992),
+            new Step(-4, "ann", "a!------a", 53801),
+            new Step(-4, "id=\"r\"", "id=\"\"", RESP_V),
+            new Step(0, "id=\"r\"", "id=\"rrrrrrrr\"", RESP_V),
+            new Step(-4, "id=\"r\"", "id=\"rrrrrrrrr\"", RESP_V),
+            new Step(0, "noa=\"1\"", "noa=\"999999999\"", 3407),
+            new Step(-4, "noa=\"1\"", "noa=\"0000000001\"", 47027));
+    }
+
     /** The words of CONSUMING from -9 to -13, each just inside and just outside, the clock being 0 and SKEW 0. */
     private static void terms() {
         eachTaken(RESP,
@@ -240,11 +255,7 @@ public final class DocumentTest {
     /** "nb is more than clock + SKEW, or noa is not more than clock - SKEW", the clock being 10 and SKEW 3 */
     private static void termsWithSkew() {
         int[][] cases = {{13, 8, 8, 0}, {14, 8, 8, -12}, {13, 7, 8, -12}, {13, 8, 7, -13}};
-        int[] vs = {
-            16039,
-            38787,
-            39006,
-            48764};
+        int[] vs = {16039, 38787, 39006, 48764};
         for (int i = 0; i < cases.length; i++) {
             Desk desk = new Desk(3, 100);
             desk.gate().trust(0, PLAIN, 1);
@@ -254,6 +265,21 @@ public final class DocumentTest {
             String text = put(RESP, "nb=\"0\" noa=\"1\"", cond);
             text = put(text, "rcp=\"acs\" noa=\"1\"", "rcp=\"acs\" noa=\"" + cases[i][2] + "\"");
             Due.is("consume of " + text, desk.fill(signed(text, vs[i])).gate().consume(), cases[i][3]);
+        }
+    }
+
+    /** "SKEW is the constructor's, if that is 0 .. 100, else 0", the clock being 200 */
+    private static void skews() {
+        int[][] cases = {{100, 101, 0}, {100, 100, -12}, {101, 200, -12}, {101, 201, 0}, {-1, 200, -12}, {-1, 201, 0}};
+        int[] vs = {42233, 14628, 44406, 6490, 44406, 6490};
+        for (int i = 0; i < cases.length; i++) {
+            Desk desk = new Desk(cases[i][0], 201);
+            desk.gate().trust(0, PLAIN, 1);
+            desk.gate().request(0);
+            desk.gate().pass(200);
+            String text = put(RESP, "noa=\"1\"", "noa=\"" + cases[i][1] + "\"");
+            int answer = desk.fill(signed(text, vs[i])).gate().consume();
+            Due.is("SKEW " + cases[i][0] + ", noa " + cases[i][1], answer, cases[i][2]);
         }
     }
 
@@ -326,6 +352,26 @@ public final class DocumentTest {
         Due.is("still open", desk.gate().session(0), 1);
     }
 
+    /** "-15 there are 20 sessions", open or ended; "the open sessions .. end", once */
+    private static void fullOfSessions() {
+        Desk desk = trusting();
+        desk.gate().key(0, PLAIN, 1);
+        for (int s = 0; s < 20; s++) {
+            desk.gate().request(0);
+            desk.gate().issue(0, s, 5, 1, 1);
+            Due.is("session " + s, desk.gate().consume(), s);
+        }
+        desk.gate().leave(0, 5);
+        Due.is("all of them end", desk.gate().consume(), 120);
+        desk.gate().leave(0, 5);
+        Due.is("none is open any more", desk.gate().consume(), 100);
+        desk.gate().issue(0, 20, 5, 1, 1);
+        Due.is("a session more", desk.gate().consume(), -15);
+        Due.is("its request", desk.gate().outstanding(), 1);
+        desk.gate().leave(0, 5);
+        Due.is("a logout more", desk.gate().consume(), 100);
+    }
+
     /** The id of an assn is seen for a logout too, and the other way round; that of a resp is not. */
     private static void seenByBoth() {
         Desk desk = trusting().fill(signed(RESP, RESP_V));
@@ -346,10 +392,13 @@ public final class DocumentTest {
         issuedTexts();
         validSigs();
         sameCanonicalForm();
+        shapes();
         terms();
         termsWithSkew();
+        skews();
         firstThatApplies();
         loggedOut();
+        fullOfSessions();
         seenByBoth();
         Due.end();
     }
