@@ -1,7 +1,7 @@
 /**
  * The terms that the other tests work out with the oracle, held against the document alone: the canonical forms were
- * written by hand from the document's words, and the digests, powers and texts that follow from them stand here as they
- * came out of a calculator. Nothing here asks the oracle, or the class, what is due.
+ * written by hand from the document's words, and the digests and powers that follow from them stand here as a few lines
+ * of script outside the project worked them out. Nothing here asks the oracle, or the class, what is due.
  */
 public final class DocumentTest {
     // With the modulus 65521 and the exponent 1 a POWER is the digest itself, so a v can be read as a digest.
